@@ -635,7 +635,6 @@ public final class RepeatFree {
 
     private int breaker(Morph morph, int n) {
         search.reset(told);
-        picture.clear();
         for (int size = 1; size <= n; size++) {
             search.begin(current, 0, 0, size);
             int state = search.seek();
@@ -1336,7 +1335,9 @@ public final class RepeatFree {
                     room -= Math.max(1, sizes.of(other));
                 }
             }
-            for (int size = 1; size * times <= room; size++) {
+            // a word that stands again farther ahead can't be longer than what stands twice
+            int most = times > 1 && step < 0 ? line.twiceAt(place) : room;
+            for (int size = 1; size * times <= room && size <= most; size++) {
                 sizes.set(variable, size, place);
                 if (lays(line, shape, sizes, k + 1, place + step * size, step)) {
                     return true;
@@ -1408,6 +1409,8 @@ public final class RepeatFree {
     private static final class Line {
         private final int[] letters = new int[MOST_LETTERS];
         private final int[][] same = new int[MOST_LETTERS][MOST_LETTERS];
+        // the most LETTERS that end at a place and at one ahead of it, too
+        private final int[] twice = new int[MOST_LETTERS];
         private final Sizes sizes = new Sizes();
         private int size = 0;
 
@@ -1431,13 +1434,18 @@ public final class RepeatFree {
             letters[n] = letter;
             int[] row = same[n];
             int[] above = same[Math.max(0, n - 1)];
+            int most = 0;
             for (int j = 0; j < n; j++) {
-                if (letters[j] != letter) {
-                    row[j] = 0;
-                } else {
-                    row[j] = j == 0 ? 1 : above[j - 1] + 1;
+                int back = 0;
+                if (letters[j] == letter) {
+                    back = j == 0 ? 1 : above[j - 1] + 1;
+                }
+                row[j] = back;
+                if (back > most) {
+                    most = back;
                 }
             }
+            twice[n] = most;
             size = n + 1;
         }
 
@@ -1470,6 +1478,10 @@ public final class RepeatFree {
                 return 0;
             }
             return same[later][earlier];
+        }
+
+        int twiceAt(int place) {
+            return place >= 0 && place < size && place < twice.length ? twice[place] : 0;
         }
 
         int leastPeriod(int start, int n) {
@@ -1610,8 +1622,9 @@ public final class RepeatFree {
                     return CUT;
                 } else {
                     tries++;
-                    if (!takes(told, trial, trying)) {
-                        trying++;
+                    trial.add(trying);
+                    if (trial.isBadAt(told, trial.size - 1)) {
+                        trying = trial.dropLast() + 1;
                         continue;
                     }
                     trying = 0;
@@ -1633,23 +1646,15 @@ public final class RepeatFree {
             return state == CUT ? CUT : deepest - base;
         }
 
-        private boolean takes(Told rules, Line line, int letter) {
-            line.add(letter);
-            if (line.isBadAt(rules, line.size - 1)) {
-                line.dropLast();
-                return false;
-            }
-            return true;
-        }
-
         /** LETTERS (bits) by which a FREE word can go on. */
         int behind(Told rules, Line line) {
             int bits = 0;
             for (int letter = 0; letter < rules.letters && line.size < MOST_LETTERS; letter++) {
-                if (takes(rules, line, letter)) {
-                    line.dropLast();
+                line.add(letter);
+                if (!line.isBadAt(rules, line.size - 1)) {
                     bits |= 1 << letter;
                 }
+                line.dropLast();
             }
             return bits;
         }

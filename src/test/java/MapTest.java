@@ -53,6 +53,12 @@ public final class MapTest extends Due {
         tell("aaaaaaaaaacbb");
         due(STATE, "image", 1);
         is("aaaaaaaaaacbb");
+        // a longer word that begins with the IMAGE was drawn ahead of it
+        on(THUE);
+        due(-1, "fill", 0, 0, 64);
+        tell("ab");
+        due(4, "image", 0);
+        is("abba");
     }
 
     private void imaged() {

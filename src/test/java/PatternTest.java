@@ -54,6 +54,12 @@ public final class PatternTest extends Due {
         isMet("abcabc", 3, 0, 1, 1, 1);
         isMet("aabcaabc", 3, 0, 1, 1, 2);
         isMet("cbacbba", 3, -1, -1, -1, -1);
+        // the least of x counts ahead of the least of y, though y comes first
+        on("letters 2; pattern p yxy; pattern q zyyx; pattern r yxyxx;");
+        isMet("aabaa", 0, 0, 1, 2, 0);
+        isMet("bbbaabaaabab", 0, 0, 1, 1, 0);
+        isMet("ababaaa", 1, 0, 1, 1, 4);
+        isMet("baabaaaa", 2, 0, 1, 2, 0);
     }
 
     private void isCannot(boolean cannot, String pattern) {
@@ -68,7 +74,8 @@ public final class PatternTest extends Due {
         for (String pattern : new String[] {"x", "xy", "xyx", "xyz", "zyxz", "xyxzx", "xyxzxy", "yxzx", "xyzx"}) {
             isCannot(true, pattern);
         }
-        for (String pattern : new String[] {"xx", "xyxy", "xyyx", "xyzxyz", "xxy", "yzz", "xyxyx", "xyzxzy", "xxyyzz"}) {
+        for (String pattern : new String[] {"xx", "xyxy", "xyyx", "xyzxyz", "xxy", "yzz", "xyxyx", "xyzxzy", "xxyyzz", "xyxyz",
+            "yxzxz", "zxyxy"}) {
             isCannot(false, pattern);
         }
     }
@@ -97,6 +104,8 @@ public final class PatternTest extends Due {
         areLoose("xxy", 2);
         areLoose("yxzx", 1, 2, 4, 6);
         areLoose("xyxzx", 1, 2, 4, 6);
+        // from x's left point to y's right one, z's left one, x's right one
+        areLoose("xyzyzx", 2, 4);
     }
 
     private void pattern() {

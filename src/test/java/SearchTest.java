@@ -146,6 +146,8 @@ public final class SearchTest extends Due {
         due(0, "many", 40);
         on("letters 2;pattern p xx;avoid p;");
         areMany(1, 2, 2, 2, 0);
+        on("letters 3;pattern p x;avoid p;");
+        areMany(1, 0, 0);
         is("");
         due(0, "count", 5);
     }
@@ -240,6 +242,13 @@ public final class SearchTest extends Due {
         due(-2, "nth", 12, Integer.MAX_VALUE);
         is("bab");
         due(1, "count", 5);
+        // of all words of 12 LETTERS the 2496th takes just as many TRIES as there may be
+        due(5000, "nth", 12, 2496);
+        is("baabbbaaaaaa");
+        due(2496, "rank");
+        due(-2, "nth", 12, 2497);
+        due(11, "next");
+        due(-2, "rank");
         on("letters 2;limit under 2 over 1;");
         due(4, "nth", 3, 0);
         due(9, "nth", 3, 1);

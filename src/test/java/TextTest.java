@@ -65,6 +65,7 @@ public final class TextTest extends Due {
         promise(4);
         on("letters 4;");
         due(0, "count", 8);
+        on("letters 3; \n\t");
         on("\n\tletters4;limit under 99over9;map m a ab b abcdab c\td d\na;");
         due(1, "count", 1);
         due(99, "count", 6);
@@ -102,6 +103,31 @@ public final class TextTest extends Due {
         due(0, "count", 6);
         due(0, "count", 2);
         due(-1, "undo");
+        // what an earlier text told is gone, though its rows are used again
+        on("letters 4; map m a abcdab b bb c c d d; pattern p xyzxyz; pattern q yy; avoid p; avoid q;");
+        String after = "letters 2; map n a b b a; pattern r z; pattern s xy;";
+        for (int time = 0; time < 2; time++) {
+            put(after);
+            due(2, "read");
+            due(2, "count", 0);
+            due(1, "count", 1);
+            due(2, "count", 2);
+            due(0, "count", 3);
+            due(1, "pattern", 0, 0);
+            due(4, "pattern", 0, 1);
+            due(0, "pattern", 0, 2);
+            due(2, "pattern", 1, 0);
+            due(1, "imaged", 0, 0, -1);
+            due(1, "uniform", 0);
+            put("letters 4; pattern p yyyyyy; pattern q y; pattern r x; avoid r; avoid q; avoid p;");
+            due(4, "read");
+            due(3, "count", 3);
+        }
+        put("letters 2;");
+        due(2, "read");
+        put("letters 2;");
+        due(2, "read");
+        due(0, "count", 3);
         // four maps, four patterns, all named unlike
         on("letters 2;map a a b b a;map b a b b b;map x a a b a;map letter a aaaaaa b b;"
             + "pattern y x;pattern z yyyyyy;pattern mapp z;pattern patter xyzxyz;avoid z;avoid y;avoid patter;avoid mapp;");
@@ -148,6 +174,20 @@ public final class TextTest extends Due {
         fault(31, "letters 2;limit under 2 over 1;limit upto 2 over 1;");
         fault(14, "letters 2;map map a a b b;");
         fault(14, "letters 2;map letters a a b b;");
+        for (String word : new String[] {"limit", "under", "upto", "over", "map", "avoid", "pattern", "letters"}) {
+            fault(18, "letters 2;pattern " + word + " x;");
+        }
+        fault(26, "letters 2;pattern p x;map p a a b b;");
+        fault(42, "letters 2;pattern o x;pattern p y;pattern p x;");
+        fault(13, "letters 2;map;");
+        fault(15, "letters 2;map m;");
+        fault(17, "letters 2;map m a;");
+        fault(15, "letters 2;limit;");
+        fault(21, "letters 2;limit under;");
+        fault(17, "letters 2;pattern;");
+        fault(19, "letters 2;pattern p;");
+        fault(15, "letters 2;avoid;");
+        fault(7, "letters;");
         fault(14, "letters 2;map abcdefg a a b b;");
         fault(14, "letters 2;map 2 a a b b;");
         fault(16, "letters 2;map m b a a b;");
