@@ -147,17 +147,19 @@ public final class RepeatFree {
     }
 
     private Morph mapOf(int map) {
-        if (map < 0 || map >= told.mapCount || map >= told.maps.length) {
+        Morph morph = map < told.mapCount ? told.mapAt(map) : null;
+        if (morph == null) {
             throw new IndexOutOfBoundsException();
         }
-        return told.maps[map];
+        return morph;
     }
 
     private Shape shapeOf(int pattern) {
-        if (pattern < 0 || pattern >= told.shapeCount || pattern >= told.shapes.length) {
+        Shape shape = pattern < told.shapeCount ? told.shapeAt(pattern) : null;
+        if (shape == null) {
             throw new IndexOutOfBoundsException();
         }
-        return told.shapes[pattern];
+        return shape;
     }
 
     // ---- what the word is like
@@ -890,10 +892,10 @@ public final class RepeatFree {
             if (isWord("limit") && into.kind == NO_LIMIT) {
                 return takesLimit(into);
             }
-            if (isWord("map") && into.mapCount < into.maps.length) {
+            if (isWord("map")) {
                 return takesMap(into);
             }
-            if (isWord("pattern") && into.shapeCount < into.shapes.length) {
+            if (isWord("pattern")) {
                 return takesShape(into);
             }
             return isWord("avoid") ? takesAvoid(into) : miss(start);
@@ -935,11 +937,10 @@ public final class RepeatFree {
         }
 
         private boolean takesMap(Told into) {
-            int index = into.mapCount;
-            if (index < 0 || index >= into.maps.length) {
+            Morph morph = into.mapAt(into.mapCount);
+            if (morph == null) {
                 return miss(start);
             }
-            Morph morph = into.maps[index];
             if (!takesNewName(into, morph.name)) {
                 return false;
             }
@@ -949,21 +950,20 @@ public final class RepeatFree {
                 }
                 morph.put(letter, tape, start, at);
             }
-            into.mapCount = index + 1;
+            into.mapCount++;
             return true;
         }
 
         private boolean takesShape(Told into) {
-            int index = into.shapeCount;
-            if (index < 0 || index >= into.shapes.length) {
+            Shape shape = into.shapeAt(into.shapeCount);
+            if (shape == null) {
                 return miss(start);
             }
-            Shape shape = into.shapes[index];
             if (!takesNewName(into, shape.name) || !takesPart('x', VARIABLES, LONGEST_PART)) {
                 return false;
             }
             shape.put(tape, start, at);
-            into.shapeCount = index + 1;
+            into.shapeCount++;
             return true;
         }
 
@@ -984,9 +984,9 @@ public final class RepeatFree {
             if (!takesWord()) {
                 return false;
             }
-            for (int k = 0; k < into.shapeCount && k < into.shapes.length; k++) {
-                Shape shape = into.shapes[k];
-                if (shape.name.isAt(tape, start, at) && !shape.avoided) {
+            for (int k = 0; k < into.shapeCount; k++) {
+                Shape shape = into.shapeAt(k);
+                if (shape != null && !shape.avoided && shape.name.isAt(tape, start, at)) {
                     shape.avoided = true;
                     return true;
                 }
@@ -1038,6 +1038,15 @@ public final class RepeatFree {
             }
         }
 
+        /** Null behind the last row. */
+        Morph mapAt(int k) {
+            return k >= 0 && k < maps.length ? maps[k] : null;
+        }
+
+        Shape shapeAt(int k) {
+            return k >= 0 && k < shapes.length ? shapes[k] : null;
+        }
+
         void clear() {
             letters = 2;
             setLimit(NO_LIMIT, 0, 0);
@@ -1057,11 +1066,15 @@ public final class RepeatFree {
         }
 
         boolean isNamed(Tape tape, int from, int to) {
-            for (int k = 0; k < MOST_TOLD; k++) {
-                if (k < mapCount && k < maps.length && maps[k].name.isAt(tape, from, to)) {
+            for (int k = 0; k < mapCount; k++) {
+                Morph morph = mapAt(k);
+                if (morph != null && morph.name.isAt(tape, from, to)) {
                     return true;
                 }
-                if (k < shapeCount && k < shapes.length && shapes[k].name.isAt(tape, from, to)) {
+            }
+            for (int k = 0; k < shapeCount; k++) {
+                Shape shape = shapeAt(k);
+                if (shape != null && shape.name.isAt(tape, from, to)) {
                     return true;
                 }
             }
@@ -1070,8 +1083,9 @@ public final class RepeatFree {
 
         int avoidedCount() {
             int found = 0;
-            for (int k = 0; k < shapeCount && k < shapes.length; k++) {
-                if (shapes[k].avoided) {
+            for (int k = 0; k < shapeCount; k++) {
+                Shape shape = shapeAt(k);
+                if (shape != null && shape.avoided) {
                     found++;
                 }
             }
@@ -1508,9 +1522,9 @@ public final class RepeatFree {
                     return true;
                 }
             }
-            for (int k = 0; k < told.shapeCount && k < told.shapes.length; k++) {
-                Shape shape = told.shapes[k];
-                if (shape.avoided && Sizes.lays(this, shape, sizes, 0, place, -1)) {
+            for (int k = 0; k < told.shapeCount; k++) {
+                Shape shape = told.shapeAt(k);
+                if (shape != null && shape.avoided && Sizes.lays(this, shape, sizes, 0, place, -1)) {
                     return true;
                 }
             }
