@@ -8,10 +8,14 @@ import java.util.ArrayList;
 import java.util.Arrays;
 import java.util.List;
 import java.util.TreeSet;
+import java.util.regex.Pattern;
 import java.util.stream.Collectors;
 
 /** The class has the face that the document tells, and nothing else that can be seen. */
 public final class FaceTest {
+    private static final Pattern FORBIDDEN = Pattern.compile("->|::|static \\{|System\\.(?!arraycopy)|Exact\\("
+        + "|\\b(try|catch|finally|synchronized|assert|instanceof|protected|float|double)\\b");
+
     public static void main(String[] args) throws Exception {
         List<String> wrong = new ArrayList<>();
         TreeSet<String> due = due();
@@ -27,6 +31,7 @@ public final class FaceTest {
             }
         }
         wrong.addAll(hidden());
+        wrong.addAll(forbidden());
         wrong.forEach(System.out::println);
         System.out.println("FaceTest: " + (wrong.isEmpty() ? "all is as due" : wrong.size() + " are not as due"));
         if (!wrong.isEmpty()) {
@@ -80,6 +85,20 @@ public final class FaceTest {
 
     private static boolean isSeen(int modifiers) {
         return !Modifier.isPrivate(modifiers);
+    }
+
+    /** What LANGUAGE.md has no place for, looked for in the lines of the class that are no comments. */
+    private static List<String> forbidden() throws Exception {
+        List<String> wrong = new ArrayList<>();
+        for (String row : Files.readAllLines(Path.of("src/main/java/RepeatFree.java"))) {
+            String line = row.trim();
+            boolean comment = line.startsWith("//") || line.startsWith("*") || line.startsWith("/**");
+            boolean imported = line.startsWith("import ") && !line.equals("import java.util.NoSuchElementException;");
+            if (!comment && (imported || FORBIDDEN.matcher(line).find())) {
+                wrong.add("not in the language: " + line);
+            }
+        }
+        return wrong;
     }
 
     /** No private method bears a public one's name; the class is final; static fields are final constants. */

@@ -7,7 +7,8 @@ import java.util.List;
 /** Long runs of calls, like chance, on the class and on what the document's words say plainly. */
 public final class OracleTest {
     private static final int RUNS = 400;
-    private static final int CALLS = 500;
+    // a text takes up to 25 calls more, and no object is asked more than 512 times
+    private static final int CALLS = 480;
     private static final int[] EDGES = {Integer.MIN_VALUE, Integer.MAX_VALUE, -3, -2, -1, 0, 1, 2, 3, 4, 5, 6, 7, 12, 13,
         39, 40, 41, 63, 64, 65, 99, 100, 400, 401};
 
