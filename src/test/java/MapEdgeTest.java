@@ -243,7 +243,8 @@ public final class MapEdgeTest extends Due {
 
     private void grows() {
         edge(34, "begins with it and has more LETTERS");
-        on("letters 4;map m a aa b b c cdabcd d ad;map n a ab b bb c cc d da;map o a a b b c c d d;map p a bbbbbb b a c a d a;");
+        on("letters 4;map m a aa b b c cdabcd d ad;map n a ab b bb c cc d da;map o a a b b c c d d;"
+            + "map p a bbbbbb b a c a d a;");
         due(5, "grows", 0);
         due(15, "grows", 1);
         due(0, "grows", 2);

@@ -50,7 +50,14 @@ public final class PatternEdgeTest extends Due {
     }
 
     private void metInAll() {
-        edge(19, "in 64 LETTERS: at the last place, by all of them");
+        edge(19, "in 64 LETTERS: at the last two of them, none with a LETTER less");
+        on("letters 3;map m a abc b ac c b;pattern p xx;");
+        due(-1, "fill", 0, 0, 63);
+        due(-1, "met", 0, 0);
+        due(64, "push", 2);
+        due(62, "met", 0, 0);
+        due(1, "met", 0, 1);
+        edge(19, "in 64 LETTERS: by all of them");
         on("letters 3;pattern p xx;pattern q xyx;pattern r xyyx;");
         String half = "abcacbacabcbabcacbabcbacabcbacbc";
         isMet(half + half, 0, 0, 32, 0, 0);

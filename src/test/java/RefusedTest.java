@@ -135,7 +135,8 @@ public final class RefusedTest extends Due {
     private void limits() {
         edge(43, "kind, N, N: each of them");
         int[][] wrong = {{-1, 1, 1}, {3, 1, 1}, {LEAST, 1, 1}, {MOST, 1, 1}, {1, 0, 1}, {1, 100, 1}, {2, -1, 1}, {2, 1, 0},
-            {1, 1, 10}, {2, 99, -1}, {0, 0, 1}, {0, 100, 1}, {0, 1, 0}, {0, 1, 10}, {0, 0, 0}, {1, LEAST, LEAST}, {2, MOST, MOST}};
+            {1, 1, 10}, {2, 99, -1}, {0, 0, 1}, {0, 100, 1}, {0, 1, 0}, {0, 1, 10}, {0, 0, 0},
+            {1, LEAST, LEAST}, {2, MOST, MOST}};
         for (int[] row : wrong) {
             refuses(NEW, "ab", ARGUMENT, "limit", row[0], row[1], row[2]);
             refuses(ALL, "ab", ARGUMENT, "limit", row[0], row[1], row[2]);

@@ -4,7 +4,8 @@ import java.util.regex.Pattern;
 /** Terms 1: each bound of a text, and each byte at which one can be wrong. */
 public final class TextEdgeTest extends Due {
     private static final String[] KEYWORDS = {"letters", "limit", "under", "upto", "over", "map", "pattern", "avoid"};
-    private static final String WHOLE = "letters 3;limit under 17 over 4;map m a ab b c c aabbcc;pattern long xyzxyz;avoid long;";
+    private static final String WHOLE =
+        "letters 3;limit under 17 over 4;map m a ab b c c aabbcc;pattern long xyzxyz;avoid long;";
     // what must stand in WHOLE as it does there, from its first byte on
     private static final Pattern MUST = Pattern.compile("letters|limit|under|over|map|pattern|avoid|(?<=avoid )long");
 
