@@ -1208,6 +1208,7 @@ public final class RepeatFree {
         private final Name name = new Name();
         private final int[] parts = new int[LONGEST_PART];
         private int size = 0;
+        private int shortPlaces = 0;
         private boolean avoided = false;
 
         void put(Tape tape, int from, int to) {
@@ -1216,6 +1217,10 @@ public final class RepeatFree {
             for (int i = from; i < to && size < parts.length; i++) {
                 parts[size] = tape.at(i) - 'x';
                 size++;
+            }
+            shortPlaces = 0;
+            for (int k = 0; k < size; k++) {
+                shortPlaces |= needsOne(k) ? 1 << k : 0;
             }
         }
 
@@ -1239,6 +1244,30 @@ public final class RepeatFree {
                 bits |= 1 << at(k);
             }
             return bits;
+        }
+
+        private boolean standsAlone(int k) {
+            return k >= 0 && k < size && times(at(k)) == 1;
+        }
+
+        /**
+         * Of letters that stand alone, one behind another, only the first needs more than one LETTER; and it does
+         * not at the PATTERN's beginning, where fewer would do, nor at its end, where it would be met sooner.
+         */
+        private boolean needsOne(int k) {
+            boolean allAhead = true;
+            boolean allBehind = true;
+            for (int i = 0; i < size; i++) {
+                boolean alone = standsAlone(i);
+                allAhead = allAhead && (i > k || alone);
+                allBehind = allBehind && (i < k || alone);
+            }
+            return standsAlone(k) && (allAhead || allBehind || standsAlone(k - 1));
+        }
+
+        /** Whether one LETTER is enough for the k-th letter, where the PATTERN ends at a place and at none ahead. */
+        boolean isShort(int k) {
+            return k >= 0 && (shortPlaces >> k & 1) != 0;
         }
 
         private int sizeWithin(int left) {
@@ -1324,7 +1353,7 @@ public final class RepeatFree {
         /**
          * Whether words can be laid for the k-th letter of the pattern and those behind it, one behind another
          * from a place on (step 1); or for the k-th from its end and those ahead of it, one ahead of another,
-         * the first of them so that it ends at a place (step -1).
+         * the first of them so that it ends at a place, in a word where none end ahead of that (step -1).
          */
         private static boolean lays(Line line, Shape shape, Sizes sizes, int k, int place, int step) {
             if (k >= shape.size || k >= LONGEST_PART) {
@@ -1349,8 +1378,11 @@ public final class RepeatFree {
                     room -= Math.max(1, sizes.of(other));
                 }
             }
-            // a word that stands again farther ahead can't be longer than what stands twice
-            int most = times > 1 && step < 0 ? line.twiceAt(place) : room;
+            int most = room;
+            if (step < 0) {
+                // a word that stands again farther ahead can't be longer than what stands twice
+                most = times > 1 ? line.twiceAt(place) : shape.isShort(shape.size - 1 - k) ? 1 : room;
+            }
             for (int size = 1; size * times <= room && size <= most; size++) {
                 sizes.set(variable, size, place);
                 if (lays(line, shape, sizes, k + 1, place + step * size, step)) {
@@ -1507,7 +1539,7 @@ public final class RepeatFree {
             return p;
         }
 
-        /** Whether a FACTOR that ends at a place makes the word be not FREE. */
+        /** Whether a FACTOR that ends at a place makes the word be not FREE, if all ahead of the place is FREE. */
         boolean isBadAt(Told told, int place) {
             if (told.isBeyond(1, 1)) {
                 return true;

@@ -1,3 +1,6 @@
+import java.util.ArrayList;
+import java.util.List;
+
 /** Promises 27 to 35, 48 to 50 at their bounds: maps, their IMAGES and POWERS. */
 public final class MapEdgeTest extends Due {
     private static final int LEAST = Integer.MIN_VALUE, MOST = Integer.MAX_VALUE;
@@ -21,6 +24,7 @@ public final class MapEdgeTest extends Due {
         test.fill();
         test.sources();
         test.code();
+        test.readAgain();
         test.close("MapEdgeTest");
     }
 
@@ -392,5 +396,53 @@ public final class MapEdgeTest extends Due {
         isCode(false, "ab abba bab");
         isCode(true, "aab aabb abb");
         isCode(true, "aab aabb baa abaa");
+    }
+
+    /** Of a text that comes in place of one with more of all, everything is as of one that came first. */
+    private void readAgain() {
+        String rich = "letters 4;limit under 9 over 8;map m a abcd b bb c cabab d ab;map n a ab b ba c caa d dabba;"
+            + "map o a a b a c a d b;map p a bcd b cd c d d a;pattern q xyzxyz;pattern r xx;avoid q;avoid r;";
+        String[] poor = {"letters 2;map m a aab b a;pattern q xyyxyz;", "letters 2;map m a abb b a;map n a aa b ab;map o a ab b aba;",
+            "letters 3;map m a b b a c a;map n a aa b ab c bb;map o a aab b baa c cca;",
+            "letters 2;map m a b b a;map n a aab b baa;map o a ab b b;"};
+        for (String text : poor) {
+            edge(4, "in place of all: " + text);
+            on(text);
+            List<String> first = ofAll();
+            on(rich);
+            for (String next : new String[] {rich, text, text}) {
+                put(next);
+                due(next.charAt(8) - '0', "read");
+            }
+            isAs(first, ofAll(), "read");
+        }
+    }
+
+    private List<String> ofAll() {
+        List<String> answers = new ArrayList<>();
+        tell("ababbaab");
+        for (String call : new String[] {"free", "goes", "ahead", "further", "longest", "rank"}) {
+            answers.add(ask(call));
+        }
+        for (int what = 0; what <= 8; what++) {
+            answers.add(ask("count", what));
+            answers.add(ask("many", what));
+        }
+        for (int map = 0; map < 4; map++) {
+            for (String call : new String[] {"grows", "uniform", "code", "sources"}) {
+                answers.add(ask(call, map));
+            }
+            for (int letter = 0; letter < 4; letter++) {
+                answers.add(ask("imaged", map, letter, -1));
+                answers.add(ask("length", map, letter, 12));
+                answers.add(ask("often", map, 1, 3, letter));
+                answers.add(ask("power", map, letter, 2, 2));
+            }
+            answers.add(ask("keeps", map, 3));
+            answers.add(ask("cannot", map));
+            answers.add(ask("met", map, 0));
+            answers.add(ask("pattern", map, 2));
+        }
+        return answers;
     }
 }

@@ -13,6 +13,7 @@ public final class PatternEdgeTest extends Due {
         test.sizes();
         test.cannot();
         test.cannotAsBooksSay();
+        test.avoidedByAll();
         test.loose();
         test.pattern();
         test.avoid();
@@ -66,6 +67,15 @@ public final class PatternEdgeTest extends Due {
         on("letters 3;pattern p xx;pattern q xyx;");
         isMet("cabcabb", 0, 0, 3, 0, 0);
         isMet("bcabcaa", 0, 0, 3, 0, 0);
+        edge(19, "as a FACTOR: nothing of it stands behind the last LETTER");
+        on("letters 3;pattern p xxy;pattern q xyxz;pattern r xyxyz;");
+        isMet("cabab", 0);
+        isMet("cababc", 0, 1, 2, 1, 0);
+        isMet("acbbc", 1);
+        isMet("caba", 1);
+        isMet("cabac", 1, 1, 1, 1, 1);
+        isMet("cabab", 2);
+        isMet("cababa", 2, 1, 1, 1, 1);
         edge(19, "at the last places of THE WORD");
         on("letters 4;pattern p xx;pattern q xyx;pattern r yyyyyy;");
         isMet("abcd", 0);
@@ -139,12 +149,7 @@ public final class PatternEdgeTest extends Due {
      * McNulty): so the two calls answer alike, of each PATTERN.
      */
     private void cannotAsBooksSay() {
-        List<String> patterns = new ArrayList<>(List.of("x", "y", "z"));
-        for (int i = 0; patterns.get(i).length() < 6; i++) {
-            for (String letter : List.of("x", "y", "z")) {
-                patterns.add(patterns.get(i) + letter);
-            }
-        }
+        List<String> patterns = allPatterns();
         int found = 0;
         for (int i = 0; i < patterns.size(); i += 4) {
             StringBuilder text = new StringBuilder("letters 3;");
@@ -166,6 +171,39 @@ public final class PatternEdgeTest extends Due {
         }
         if (patterns.size() != 1092 || found == 0) {
             throw new AssertionError("not all patterns of 1 to 6 letters: " + patterns.size());
+        }
+    }
+
+    /** All of 1 to 6 letters. */
+    private static List<String> allPatterns() {
+        List<String> patterns = new ArrayList<>(List.of("x", "y", "z"));
+        for (int i = 0; patterns.get(i).length() < 6; i++) {
+            for (String letter : List.of("x", "y", "z")) {
+                patterns.add(patterns.get(i) + letter);
+            }
+        }
+        return patterns;
+    }
+
+    /** HOW MANY words have the FACTOR that a PATTERN may not be, of each PATTERN: asked of the Java library's. */
+    private void avoidedByAll() {
+        for (String pattern : allPatterns()) {
+            edge(11, "none of the PATTERNS to avoid is MET: " + pattern);
+            on("letters 2;pattern p " + pattern + ";avoid p;");
+            Pattern met = Pattern.compile(regex(pattern));
+            List<String> free = new ArrayList<>(List.of(""));
+            for (int n = 1; n <= 9; n++) {
+                List<String> longer = new ArrayList<>();
+                for (String word : free) {
+                    for (String letter : List.of("a", "b")) {
+                        if (!met.matcher(word + letter).find()) {
+                            longer.add(word + letter);
+                        }
+                    }
+                }
+                free = longer;
+                due(free.size(), "many", n);
+            }
         }
     }
 

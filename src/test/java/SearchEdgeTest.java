@@ -27,6 +27,7 @@ public final class SearchEdgeTest extends Due {
         test.nth();
         test.nthTries();
         test.ahead();
+        test.isOneMore();
         test.limit();
         test.close("SearchEdgeTest");
     }
@@ -455,6 +456,22 @@ public final class SearchEdgeTest extends Due {
         dueOf("aab", 6, "ahead");
         dueOf("bbaa", 4, "ahead");
         dueOf("aaab", 0, "ahead");
+    }
+
+    private void isOneMore() {
+        edge(42, "all is THE WORD and one LETTER, no more");
+        on(avoiding("letters 3;", "xyz"));
+        dueOf("", 7, "ahead");
+        dueOf("c", 7, "ahead");
+        dueOf("ca", 0, "ahead");
+        on(avoiding("letters 3;limit upto 1 over 1;", "xyzxyz"));
+        dueOf("ca", 2, "ahead");
+        dueOf("cab", 0, "ahead");
+        edge(20, "THE WORD and one LETTER, no more");
+        on(avoiding("letters 3;", "xyz"));
+        dueOf("", 7, "goes");
+        dueOf("c", 7, "goes");
+        dueOf("ca", 0, "goes");
     }
 
     private void isLimit(int was, int kind, int above, int below) {
