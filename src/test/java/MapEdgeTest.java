@@ -24,6 +24,7 @@ public final class MapEdgeTest extends Due {
         test.fill();
         test.sources();
         test.code();
+        test.codesOfTwo();
         test.readAgain();
         test.close("MapEdgeTest");
     }
@@ -210,6 +211,14 @@ public final class MapEdgeTest extends Due {
         on("letters 4;limit under 5 over 1;map m a a b dc c bc d db;");
         due(322224, "breaks", 0, 6);
         keepsUpTo(0, 6, 0);
+        edge(33, "5000 TRIES up to the word that BREAKS");
+        on("letters 4;limit under 7 over 1;map m a bdc b b c cbb d d;");
+        due(322221, "breaks", 0, 6);
+        keepsUpTo(0, 6, 0);
+        edge(33, "5001 TRIES up to the word that would, by another limit: CUT");
+        on("letters 4;limit upto 17 over 3;map m a a b b c db d d;");
+        due(-2, "breaks", 0, 6);
+        keepsUpTo(0, 6, -2);
         edge(33, "5001 TRIES up to the word that would: CUT");
         on("letters 4;limit under 17 over 3;map m a a b b c cb d d;");
         due(-2, "breaks", 0, 6);
@@ -396,6 +405,60 @@ public final class MapEdgeTest extends Due {
         isCode(false, "ab abba bab");
         isCode(true, "aab aabb abb");
         isCode(true, "aab aabb baa abaa");
+        edge(50, "an IMAGE within what is over of another one");
+        // ab b ab
+        isCode(false, "ab abbab b");
+        isCode(false, "abbab b ab");
+        isCode(false, "abccab ab c");
+        isCode(true, "abccab ab ccb");
+        isCode(false, "ab abcdab cd d");
+        isCode(true, "ab abcdac cd d");
+        edge(50, "what is over of 6 LETTERS: 1 to 5 of them, of each LETTER");
+        for (int size = 1; size <= 5; size++) {
+            String some = "abbbbb".substring(0, size);
+            String over = "abbbbb".substring(size);
+            isCode(true, "abbbbb " + some + " c");
+            isCode(true, some + " abbbbb c");
+            isCode(true, "c " + some + " abbbbb");
+            isCode(true, "c d " + some + " abbbbb");
+            isCode(true, "c d abbbbb " + some);
+            isCode(false, "abbbbb " + some + " " + over);
+            isCode(false, some + " c abbbbb " + over);
+            isCode(false, "c " + over + " " + some + " abbbbb");
+        }
+    }
+
+    /** Two words are a CODE just if they, one behind the other, are not alike both ways round. */
+    private void codesOfTwo() {
+        List<String> words = new ArrayList<>(List.of("a", "b"));
+        for (int i = 0; words.get(i).length() < 6; i++) {
+            words.add(words.get(i) + "a");
+            words.add(words.get(i) + "b");
+        }
+        StringBuilder text = new StringBuilder();
+        List<Boolean> codes = new ArrayList<>();
+        for (int i = 0; i < words.size(); i++) {
+            for (int j = i % 3; j < words.size(); j += 3) {
+                String one = words.get(i);
+                String other = words.get(j);
+                text.append("map ").append((char) ('m' + codes.size())).append(" a ").append(one).append(" b ")
+                    .append(other).append(';');
+                codes.add(!(one + other).equals(other + one));
+                if (codes.size() == 4) {
+                    areCodes("letters 2;" + text, codes);
+                    text.setLength(0);
+                    codes.clear();
+                }
+            }
+        }
+    }
+
+    private void areCodes(String text, List<Boolean> codes) {
+        edge(50, "of " + text);
+        on(text);
+        for (int map = 0; map < codes.size(); map++) {
+            due(codes.get(map), "code", map);
+        }
     }
 
     /** Of a text that comes in place of one with more of all, everything is as of one that came first. */

@@ -15,6 +15,7 @@ public final class PatternEdgeTest extends Due {
         test.cannotAsBooksSay();
         test.avoidedByAll();
         test.loose();
+        test.looseOfAll();
         test.pattern();
         test.avoid();
         test.whole();
@@ -244,6 +245,38 @@ public final class PatternEdgeTest extends Due {
         areLoose("xyxzxy", 1, 2, 4, 6);
         areLoose("xyzxyz", 1, 2, 4);
         areLoose("xxyyzz");
+    }
+
+    /** A set is LOOSE just if no piece that is joined has the left POINT of one of it and the right one of one of it. */
+    private void looseOfAll() {
+        for (String pattern : allPatterns()) {
+            int[] piece = {0, 1, 2, 3, 4, 5};
+            for (int k = 0; k + 1 < pattern.length(); k++) {
+                int left = piece[pattern.charAt(k) - 'x'];
+                int right = piece[3 + pattern.charAt(k + 1) - 'x'];
+                for (int point = 0; point < 6; point++) {
+                    piece[point] = piece[point] == left ? right : piece[point];
+                }
+            }
+            List<Integer> sets = new ArrayList<>();
+            for (int set = 1; set < 8; set++) {
+                boolean loose = true;
+                for (int point = 0; point < 9; point++) {
+                    int left = point / 3;
+                    int right = point % 3;
+                    boolean both = (set >> left & 1) != 0 && (set >> right & 1) != 0;
+                    loose = loose && !(both && piece[left] == piece[3 + right]);
+                }
+                for (int letter = 0; letter < 3; letter++) {
+                    loose = loose && ((set >> letter & 1) == 0 || pattern.indexOf('x' + letter) >= 0);
+                }
+                if (loose) {
+                    sets.add(set);
+                }
+            }
+            edge(37, "of " + pattern);
+            areLoose(pattern, sets.stream().mapToInt(set -> set).toArray());
+        }
     }
 
     private void pattern() {

@@ -385,7 +385,7 @@ public final class TextEdgeTest extends Due {
                     due = word.start();
                 }
             }
-            for (int sign : new int[] {0, '!', 'A', 127, 225, 255}) {
+            for (int sign : new int[] {0, '!', '/', ':', '@', 'A', '[', '`', '{', 127, 225, 255}) {
                 fault(due, with(sign, place, WHOLE));
             }
         }
