@@ -1218,10 +1218,7 @@ public final class RepeatFree {
                 parts[size] = tape.at(i) - 'x';
                 size++;
             }
-            shortPlaces = 0;
-            for (int k = 0; k < size; k++) {
-                shortPlaces |= needsOne(k) ? 1 << k : 0;
-            }
+            shortPlaces = needingOne();
         }
 
         int at(int k) {
@@ -1246,23 +1243,23 @@ public final class RepeatFree {
             return bits;
         }
 
-        private boolean standsAlone(int k) {
-            return k >= 0 && k < size && times(at(k)) == 1;
-        }
-
         /**
          * Of letters that stand alone, one behind another, only the first needs more than one LETTER; and it does
          * not at the PATTERN's beginning, where fewer would do, nor at its end, where it would be met sooner.
          */
-        private boolean needsOne(int k) {
-            boolean allAhead = true;
-            boolean allBehind = true;
-            for (int i = 0; i < size; i++) {
-                boolean alone = standsAlone(i);
-                allAhead = allAhead && (i > k || alone);
-                allBehind = allBehind && (i < k || alone);
+        private int needingOne() {
+            int alone = 0;
+            for (int k = 0; k < size; k++) {
+                alone |= times(at(k)) == 1 ? 1 << k : 0;
             }
-            return standsAlone(k) && (allAhead || allBehind || standsAlone(k - 1));
+            int places = alone & alone << 1;
+            for (int k = 0; k < size && (alone >> k & 1) != 0; k++) {
+                places |= 1 << k;
+            }
+            for (int k = size - 1; k >= 0 && (alone >> k & 1) != 0; k--) {
+                places |= 1 << k;
+            }
+            return places;
         }
 
         /** Whether one LETTER is enough for the k-th letter, where the PATTERN ends at a place and at none ahead. */
