@@ -438,7 +438,7 @@ public final class MapEdgeTest extends Due {
         StringBuilder text = new StringBuilder();
         List<Boolean> codes = new ArrayList<>();
         for (int i = 0; i < words.size(); i++) {
-            for (int j = i % 3; j < words.size(); j += 3) {
+            for (int j = 0; j < words.size(); j++) {
                 String one = words.get(i);
                 String other = words.get(j);
                 text.append("map ").append((char) ('m' + codes.size())).append(" a ").append(one).append(" b ")
